@@ -19,9 +19,11 @@ public final class FaceTest {
         + "alike(int,int) carry(int,int) ways(int,int) on(int,int,int) join(int,int,int) meet(int,int,int) "
         + "bad(int) rank(int,int) ranks(int,int) cubes(int)";
     private static final String[] NOT_IN_SOURCE = {
-        "\\bthrows?\\b", "\\btry\\b", "\\bcatch\\b", "\\bsynchronized\\b", "\\bassert\\b", "->", "::",
-        "\\bimport\\b", "\\bpackage\\b", "\\bequals\\b", "\\bhashCode\\b", "\\btoString\\b",
-        "\\bgetClass\\b", "\\bSystem\\.(?!arraycopy)", "Exact\\b", "\\bnative\\b", "\\bvolatile\\b", "\""
+        "\\bthrows?\\b", "\\btry\\b", "\\bcatch\\b", "\\bsynchronized\\b", "\\bassert\\b", "::",
+        "(?m)^(?!.*\\b(case|default)\\b).*->", "\\bimport\\s+(?!java\\.util\\.(ArrayList|List|Iterator|Arrays);)",
+        "\\bpackage\\b", "boolean equals\\(", "\\bhashCode\\b", "String toString\\(",
+        "\\bgetClass\\b", "\\bSystem\\.(?!arraycopy)", "Exact\\b", "\\bnative\\b", "\\bvolatile\\b",
+        "\\bstatic \\{", "\\[\\]\\[\\]\\[\\]"
     };
     private static int wrong = 0;
 
@@ -63,7 +65,6 @@ public final class FaceTest {
         Set<String> constants = new TreeSet<>();
         for (Field f : c.getDeclaredFields()) {
             boolean isStatic = Modifier.isStatic(f.getModifiers());
-            check(!isStatic || Modifier.isFinal(f.getModifiers()), "a static field is final: " + f);
             if (!Modifier.isPrivate(f.getModifiers())) {
                 constants.add(f.getName());
                 check(isStatic && Modifier.isPublic(f.getModifiers()) && f.getType() == int.class, "constant " + f);
@@ -74,12 +75,21 @@ public final class FaceTest {
 
     private static void privateOnes(Class<?> c, Set<String> openNames) {
         for (Method m : c.getDeclaredMethods()) {
-            check(Modifier.isPublic(m.getModifiers()) || !openNames.contains(m.getName()), "a public name: " + m);
+            check(!Modifier.isPrivate(m.getModifiers()) || !openNames.contains(m.getName()), "a public name: " + m);
             check(m.getParameterCount() <= 7, "too many parameters: " + m);
         }
+        int fields = 0;
+        for (Field f : c.getDeclaredFields()) {
+            boolean isStatic = Modifier.isStatic(f.getModifiers());
+            check(!isStatic || Modifier.isFinal(f.getModifiers()), "a static field is final: " + f);
+            fields += isStatic ? 0 : 1;
+        }
+        check(fields <= 20, "too many fields: " + c);
+        check(c.getDeclaredClasses().length <= 12, "too many classes in " + c);
         for (Class<?> inner : c.getDeclaredClasses()) {
+            int open = Modifier.PUBLIC | Modifier.PROTECTED;
             check(Modifier.isStatic(inner.getModifiers()), "static: " + inner);
-            check(!Modifier.isPublic(inner.getModifiers()), "not public: " + inner);
+            check((inner.getModifiers() & open) == 0, "not public: " + inner);
             privateOnes(inner, openNames);
         }
     }
@@ -89,6 +99,22 @@ public final class FaceTest {
         for (String word : NOT_IN_SOURCE) {
             Matcher found = Pattern.compile(word).matcher(code);
             check(!found.find(), "the source has " + word);
+        }
+        methodsAreShort(text.split("\n"));
+    }
+
+    /** A method ends at the brace that stands as far in as it begins. */
+    private static void methodsAreShort(String[] lines) {
+        for (int start = 0; start < lines.length; start++) {
+            String head = lines[start];
+            String in = head.substring(0, head.length() - head.stripLeading().length());
+            if (head.matches(" {4}( {4})?[A-Za-z].*\\) \\{") && !head.matches(" *(if|for|while|switch)\\b.*")) {
+                int end = start;
+                while (end < lines.length && !lines[end].equals(in + "}")) {
+                    end++;
+                }
+                check(end - start <= 60, "a long method: " + head.strip());
+            }
         }
     }
 }

@@ -3,13 +3,16 @@ import java.util.Random;
 /** Long runs of calls, right and wrong ones mixed, each answer held against Model. */
 public final class ModelTest {
     private static final int RUNS = 120;
-    private static final int CALLS = 512;
+    /** An object answers 512 calls; one step takes two at most. */
+    private static final int MOST_CALLS = 512;
     private static final int KINDS = 25;
     private static final int[] ODD = {-1, -2, 4, 5, 6, 16, 17, 273, 1 << 16, Integer.MAX_VALUE, Integer.MIN_VALUE};
 
     private final Random random;
     private final CubeWorlds real = new CubeWorlds();
     private final Model model = new Model();
+    /** How many calls the object has had. */
+    private int calls = 0;
     /** What dear calls of the model may still be made in this run. */
     private int dear = 6;
 
@@ -32,7 +35,7 @@ public final class ModelTest {
     private int run(int run) {
         int wrong = 0;
         start();
-        for (int call = 0; call < CALLS; call++) {
+        for (int step = 0; step < MOST_CALLS && calls + 2 <= MOST_CALLS; step++) {
             int kind = random.nextInt(KINDS + 15);
             // a world of one's own, or a map, comes of many puts
             if (kind >= KINDS) {
@@ -41,7 +44,7 @@ public final class ModelTest {
             String name = one(kind);
             if (name != null) {
                 wrong++;
-                System.out.println("run " + run + ", call " + call + ": " + name);
+                System.out.println("run " + run + ", call " + calls + ": " + name);
             }
         }
         return wrong;
@@ -53,12 +56,14 @@ public final class ModelTest {
         for (int s = 0; s < 4 && random.nextInt(8) != 0; s++) {
             real.field(s, n);
             model.field(s, n);
+            calls++;
         }
         for (int m = 0; m < 3; m++) {
             for (int i = 0; i < 4; i++) {
                 int v = 1 << i | random.nextInt(1 << i);
                 real.map(m, i, v);
                 model.map(m, i, v);
+                calls++;
             }
         }
     }
@@ -89,7 +94,8 @@ public final class ModelTest {
         return pick(most + 1);
     }
 
-    private static String told(String call, int got, int want) {
+    private String told(String call, int got, int want) {
+        calls++;
         return got == want ? null : call + " answered " + got + ", due is " + want;
     }
 
@@ -194,26 +200,32 @@ public final class ModelTest {
         int wrong = 0;
         for (int n = 1; n <= 3; n++) {
             for (int spoil = 0; spoil < 3; spoil++) {
-                CubeWorlds real = new CubeWorlds();
-                Model model = new Model();
-                real.field(1, n);
-                model.field(1, n);
-                if (spoil > 0) {
-                    real.put(1, n - 1, 0, spoil - 1);
-                    model.put(1, n - 1, 0, spoil - 1);
-                }
                 int places = (1 << 2 * n) + (1 << n) + 1;
                 for (int a = -1; a <= places; a++) {
-                    for (int b = -1; b <= places; b++) {
-                        boolean same = real.on(1, a, b) == model.on(1, a, b)
-                            && real.join(1, a, b) == model.join(1, a, b)
-                            && real.meet(1, a, b) == model.meet(1, a, b);
-                        if (!same) {
-                            wrong++;
-                            System.out.println("n " + n + ", spoil " + spoil + ": places " + a + ", " + b);
-                        }
-                    }
+                    wrong += everyPlaceWith(n, spoil, a, places);
                 }
+            }
+        }
+        return wrong;
+    }
+
+    private static int everyPlaceWith(int n, int spoil, int a, int places) {
+        CubeWorlds real = new CubeWorlds();
+        Model model = new Model();
+        real.field(1, n);
+        model.field(1, n);
+        if (spoil > 0) {
+            real.put(1, n - 1, 0, spoil - 1);
+            model.put(1, n - 1, 0, spoil - 1);
+        }
+        int wrong = 0;
+        for (int b = -1; b <= places; b++) {
+            boolean same = real.on(1, a, b) == model.on(1, a, b)
+                && real.join(1, a, b) == model.join(1, a, b)
+                && real.meet(1, a, b) == model.meet(1, a, b);
+            if (!same) {
+                wrong++;
+                System.out.println("n " + n + ", spoil " + spoil + ": places " + a + ", " + b);
             }
         }
         return wrong;
