@@ -135,6 +135,76 @@ final class Cases {
         }
     }
 
+    // ---- a smaller world after a larger one
+
+    /** What slot 0 had before: of each larger n, worlds with ones of their own, full ones, and some without a one. */
+    private static Call[] largerThan(int n) {
+        Call[] all = new Call[3 * (4 - n) * 2];
+        int count = 0;
+        for (int more = n + 1; more <= 4; more++) {
+            int m = more;
+            int[] full = new int[m * m];
+            Arrays.fill(full, (1 << m) - 1);
+            all[count++] = x -> had(x, m, CUBES[m - 1]);
+            all[count++] = x -> had(x, m, full);
+            all[count++] = x -> x.field(0, m) + x.ways(0, 0);
+            for (int bit = 1; bit <= 3; bit++) {
+                int one = Math.min(bit, m - 1);
+                all[count++] = x -> fieldWithOne(x, m, one);
+            }
+        }
+        return all;
+    }
+
+    private static int had(CubeWorlds x, int n, int[] products) {
+        cube(x, 0, n, products);
+        return 0;
+    }
+
+    /** A field with its numbers 1 and 2 to the bit changed about. */
+    private static int fieldWithOne(CubeWorlds x, int n, int bit) {
+        int[] names = {1, 2, 4, 8};
+        names[0] = 1 << bit;
+        names[bit] = 1;
+        x.field(0, n);
+        maps(x, names);
+        return x.carry(0, 0);
+    }
+
+    /** Slot 0, of n 1 to 3, answers the same whether or not it had a larger world before; slot 1 has the same world. */
+    static void whatALargerWorldLeftDoesNotCount(String call, Call c) {
+        for (int n = 1; n <= 3; n++) {
+            int[][] worlds = {new int[n * n], CUBES[n - 1], fieldCells(n)};
+            for (int w = 0; w < worlds.length; w++) {
+                int due = c.on(small(x -> 0, n, worlds[w]));
+                Call[] before = largerThan(n);
+                for (int b = 0; b < before.length; b++) {
+                    String at = call + " of n " + n + ", world " + w + ", after " + b;
+                    due(at, c.on(small(before[b], n, worlds[w])), due);
+                }
+            }
+        }
+    }
+
+    private static CubeWorlds small(Call before, int n, int[] products) {
+        CubeWorlds x = new CubeWorlds();
+        before.on(x);
+        cube(x, 0, n, products);
+        cube(x, 1, n, products);
+        maps(x, 1, 2, 4, 8);
+        return x;
+    }
+
+    private static int[] fieldCells(int n) {
+        CubeWorlds x = new CubeWorlds();
+        x.field(0, n);
+        int[] cells = new int[n * n];
+        for (int place = 0; place < cells.length; place++) {
+            cells[place] = x.product(0, 1 << place / n, 1 << place % n);
+        }
+        return cells;
+    }
+
     // ---- refusals
 
     /** Numbers that are not in least .. most: next to it, far from it, and such as wrap round into it. */

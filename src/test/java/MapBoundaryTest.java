@@ -247,6 +247,12 @@ public final class MapBoundaryTest {
         }
     }
 
+    static void promise17_whatALargerWorldLeftDoesNotCount() {
+        Cases.whatALargerWorldLeftDoesNotCount("alike(0, 1)", x -> x.alike(0, 1));
+        Cases.whatALargerWorldLeftDoesNotCount("alike(1, 0)", x -> x.alike(1, 0));
+        Cases.whatALargerWorldLeftDoesNotCount("alike(0, 0)", x -> x.alike(0, 0));
+    }
+
     static void promise17_slotsBefore0AndAfter3AreUnknown() {
         Cases.forEachNoSlot(s -> {
             Cases.refused("alike(" + s + ", 1)", U, x -> x.alike(s, 1));
@@ -373,6 +379,10 @@ public final class MapBoundaryTest {
         }
     }
 
+    static void promise18_whatALargerWorldLeftDoesNotCount() {
+        Cases.whatALargerWorldLeftDoesNotCount("carry(2, 0) + product(2, 1, 1)", x -> x.carry(2, 0) + x.product(2, 1, 1));
+    }
+
     static void promise18_slotsBefore0AndAfter3AreUnknown() {
         Cases.forEachNoSlot(s -> {
             Cases.refused("carry(" + s + ", 1)", U, x -> x.carry(s, 1));
@@ -422,6 +432,12 @@ public final class MapBoundaryTest {
         Cases.maps(x, 9, 3, 15, 15);
         Cases.due("others", x.ways(0, 1), 147);
         Cases.due("maps stay", x.gives(1, 1), 9);
+    }
+
+    static void promise19_whatALargerWorldLeftDoesNotCount() {
+        Cases.whatALargerWorldLeftDoesNotCount("ways(0, 1)", x -> x.ways(0, 1));
+        Cases.whatALargerWorldLeftDoesNotCount("ways(1, 0)", x -> x.ways(1, 0));
+        Cases.whatALargerWorldLeftDoesNotCount("ways(0, 0)", x -> x.ways(0, 0));
     }
 
     static void promise19_slotsBefore0AndAfter3AreUnknown() {

@@ -100,6 +100,10 @@ public final class PlaneBoundaryTest {
             Cases.refused("on(" + (n - 1) + ", 0, " + line + ")", U, x -> x.on(n - 1, 0, line))));
     }
 
+    static void promise20_whatALargerWorldLeftDoesNotCount() {
+        Cases.whatALargerWorldLeftDoesNotCount("on(0, 3, 3)", x -> x.on(0, 3, 3));
+    }
+
     static void promise20_slotsBefore0AndAfter3AreUnknown() {
         Cases.forEachNoSlot(s -> Cases.refused("on(" + s + ", 0, 0)", U, x -> x.on(s, 0, 0)));
     }
@@ -219,6 +223,11 @@ public final class PlaneBoundaryTest {
         }));
     }
 
+    static void promise21_whatALargerWorldLeftDoesNotCount() {
+        Cases.whatALargerWorldLeftDoesNotCount("join(0, 0, 3)", x -> x.join(0, 0, 3));
+        Cases.whatALargerWorldLeftDoesNotCount("join(0, 1, 2)", x -> x.join(0, 1, 2));
+    }
+
     static void promise21_slotsBefore0AndAfter3AreUnknown() {
         Cases.forEachNoSlot(s -> Cases.refused("join(" + s + ", 0, 1)", U, x -> x.join(s, 0, 1)));
     }
@@ -325,6 +334,11 @@ public final class PlaneBoundaryTest {
         }));
     }
 
+    static void promise22_whatALargerWorldLeftDoesNotCount() {
+        Cases.whatALargerWorldLeftDoesNotCount("meet(0, 0, 3)", x -> x.meet(0, 0, 3));
+        Cases.whatALargerWorldLeftDoesNotCount("meet(0, 1, 2)", x -> x.meet(0, 1, 2));
+    }
+
     static void promise22_slotsBefore0AndAfter3AreUnknown() {
         Cases.forEachNoSlot(s -> Cases.refused("meet(" + s + ", 0, 1)", U, x -> x.meet(s, 0, 1)));
     }
@@ -362,6 +376,10 @@ public final class PlaneBoundaryTest {
     static void promise23_theSteepnessIsOnTheLeft() {
         Cases.due("n 4, 2, 12, 14 by 15",
             with(4, 1, 12, 2, 11, 2, 3, 4, 5, 4, 13, 15, 1, 8, 10, 12, 9).bad(0), 3 * 8 * 256);
+    }
+
+    static void promise23_whatALargerWorldLeftDoesNotCount() {
+        Cases.whatALargerWorldLeftDoesNotCount("bad(0)", x -> x.bad(0));
     }
 
     static void promise23_slotsBefore0AndAfter3AreUnknown() {
@@ -403,6 +421,10 @@ public final class PlaneBoundaryTest {
     static void promise24_yBefore0AndFromTwoToTheNOnIsUnknown() {
         Cases.forEachN(n -> Cases.forEachOutOf(0, (1 << n) - 1, y ->
             Cases.refused("rank(" + (n - 1) + ", " + y + ")", U, x -> x.rank(n - 1, y))));
+    }
+
+    static void promise24_whatALargerWorldLeftDoesNotCount() {
+        Cases.whatALargerWorldLeftDoesNotCount("rank(0, 1)", x -> x.rank(0, 1));
     }
 
     static void promise24_slotsBefore0AndAfter3AreUnknown() {
@@ -448,6 +470,14 @@ public final class PlaneBoundaryTest {
             Cases.refused("ranks(0, " + r + ")", O, x -> x.ranks(0, r));
             Cases.refused("ranks(3, " + r + ")", O, x -> x.ranks(3, r));
         });
+    }
+
+    static void promise25_whatALargerWorldLeftDoesNotCount() {
+        Cases.whatALargerWorldLeftDoesNotCount("ranks(0, 0)", x -> x.ranks(0, 0));
+        Cases.whatALargerWorldLeftDoesNotCount("ranks(0, 1)", x -> x.ranks(0, 1));
+        Cases.whatALargerWorldLeftDoesNotCount("ranks(0, 2)", x -> x.ranks(0, 2));
+        Cases.whatALargerWorldLeftDoesNotCount("ranks(0, 3)", x -> x.ranks(0, 3));
+        Cases.whatALargerWorldLeftDoesNotCount("ranks(0, 4)", x -> x.ranks(0, 4));
     }
 
     static void promise25_slotsBefore0AndAfter3AreUnknown() {

@@ -358,6 +358,11 @@ public final class WorldBoundaryTest {
             Cases.refused("product(" + (n - 1) + ", 1, " + b + ")", U, x -> x.product(n - 1, 1, b))));
     }
 
+    static void promise05_whatALargerWorldLeftDoesNotCount() {
+        Cases.whatALargerWorldLeftDoesNotCount("product(0, 1, 1)", x -> x.product(0, 1, 1));
+        Cases.whatALargerWorldLeftDoesNotCount("product(0, 2, 0)", x -> x.product(0, 2, 0));
+    }
+
     static void promise05_slotsBefore0AndAfter3AreUnknown() {
         Cases.forEachNoSlot(s -> Cases.refused("product(" + s + ", 1, 1)", U, x -> x.product(s, 1, 1)));
     }
@@ -414,6 +419,10 @@ public final class WorldBoundaryTest {
         });
     }
 
+    static void promise06_whatALargerWorldLeftDoesNotCount() {
+        Cases.whatALargerWorldLeftDoesNotCount("divides(0)", x -> x.divides(0));
+    }
+
     static void promise06_slotsBefore0AndAfter3AreUnknown() {
         Cases.forEachNoSlot(s -> Cases.refused("divides(" + s + ")", U, x -> x.divides(s)));
     }
@@ -462,6 +471,11 @@ public final class WorldBoundaryTest {
         CubeWorlds x = with(2, 1, 2, 0, 1);
         Cases.due("x", x.broken(0, false), 2);
         Cases.due("y", x.broken(0, true), 1);
+    }
+
+    static void promise07_whatALargerWorldLeftDoesNotCount() {
+        Cases.whatALargerWorldLeftDoesNotCount("broken(0, false)", x -> x.broken(0, false));
+        Cases.whatALargerWorldLeftDoesNotCount("broken(0, true)", x -> x.broken(0, true));
     }
 
     static void promise07_slotsBefore0AndAfter3AreUnknown() {
@@ -524,6 +538,10 @@ public final class WorldBoundaryTest {
             int slot = s;
             Cases.asks("one(" + s + ")", want[s], x -> x.one(slot));
         }
+    }
+
+    static void promise08_whatALargerWorldLeftDoesNotCount() {
+        Cases.whatALargerWorldLeftDoesNotCount("one(0)", x -> x.one(0));
     }
 
     static void promise08_slotsBefore0AndAfter3AreUnknown() {
@@ -595,6 +613,13 @@ public final class WorldBoundaryTest {
             Cases.refused("quotient(" + (n - 1) + ", 1, " + z + ")", U, x -> x.quotient(n - 1, 1, z, true));
             Cases.refused("quotient(" + (n - 1) + ", 0, " + z + ")", U, x -> x.quotient(n - 1, 0, z, false));
         }));
+    }
+
+    static void promise09_whatALargerWorldLeftDoesNotCount() {
+        Cases.whatALargerWorldLeftDoesNotCount("quotient(0, 1, 1, true)", x -> x.quotient(0, 1, 1, true));
+        Cases.whatALargerWorldLeftDoesNotCount("quotient(0, 1, 1, false)", x -> x.quotient(0, 1, 1, false));
+        Cases.whatALargerWorldLeftDoesNotCount("quotient(0, 1, 0, true)", x -> x.quotient(0, 1, 0, true));
+        Cases.whatALargerWorldLeftDoesNotCount("quotient(0, 0, 1, true)", x -> x.quotient(0, 0, 1, true));
     }
 
     static void promise09_slotsBefore0AndAfter3AreUnknown() {
@@ -682,6 +707,11 @@ public final class WorldBoundaryTest {
         });
     }
 
+    static void promise10_whatALargerWorldLeftDoesNotCount() {
+        Cases.whatALargerWorldLeftDoesNotCount("turn(1, 0, 3) + product(1, 1, 1)", x -> x.turn(1, 0, 3) + x.product(1, 1, 1));
+        Cases.whatALargerWorldLeftDoesNotCount("turn(1, 0, 1) + product(1, 2, 1)", x -> x.turn(1, 0, 1) + x.product(1, 2, 1));
+    }
+
     static void promise10_slotsBefore0AndAfter3AreUnknown() {
         Cases.forEachNoSlot(s -> {
             Cases.refused("turn(" + s + ", 1, 1)", U, x -> x.turn(s, 1, 1));
@@ -766,6 +796,13 @@ public final class WorldBoundaryTest {
         }));
     }
 
+    static void promise11_whatALargerWorldLeftDoesNotCount() {
+        Cases.whatALargerWorldLeftDoesNotCount("joins(0, 1, 0)", x -> x.joins(0, 1, 0));
+        Cases.whatALargerWorldLeftDoesNotCount("joins(0, 1, 1)", x -> x.joins(0, 1, 1));
+        Cases.whatALargerWorldLeftDoesNotCount("joins(0, 1, 2)", x -> x.joins(0, 1, 2));
+        Cases.whatALargerWorldLeftDoesNotCount("joins(0, 1, 3)", x -> x.joins(0, 1, 3));
+    }
+
     static void promise11_slotsBefore0AndAfter3AreUnknown() {
         Cases.forEachNoSlot(s -> Cases.refused("joins(" + s + ", 0, 0)", U, x -> x.joins(s, 0, 0)));
     }
@@ -824,6 +861,13 @@ public final class WorldBoundaryTest {
         });
     }
 
+    static void promise12_whatALargerWorldLeftDoesNotCount() {
+        Cases.whatALargerWorldLeftDoesNotCount("many(0, 0)", x -> x.many(0, 0));
+        Cases.whatALargerWorldLeftDoesNotCount("many(0, 1)", x -> x.many(0, 1));
+        Cases.whatALargerWorldLeftDoesNotCount("many(0, 2)", x -> x.many(0, 2));
+        Cases.whatALargerWorldLeftDoesNotCount("many(0, 3)", x -> x.many(0, 3));
+    }
+
     static void promise12_slotsBefore0AndAfter3AreUnknown() {
         Cases.forEachNoSlot(s -> Cases.refused("many(" + s + ", 3)", U, x -> x.many(s, 3)));
     }
@@ -850,6 +894,10 @@ public final class WorldBoundaryTest {
     static void promise13_mostIsAllButThoseWith0AndWithItself() {
         Cases.asks("n 3", 42, x -> x.unlike(2));
         Cases.due("n 4", with(4, 0, 13, 4, 6, 0, 0, 11, 2, 0, 0, 0, 14, 0, 0, 0, 0).unlike(0), 210);
+    }
+
+    static void promise13_whatALargerWorldLeftDoesNotCount() {
+        Cases.whatALargerWorldLeftDoesNotCount("unlike(0)", x -> x.unlike(0));
     }
 
     static void promise13_slotsBefore0AndAfter3AreUnknown() {
